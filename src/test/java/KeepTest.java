@@ -10,6 +10,7 @@ public final class KeepTest {
     hiddenNow(due);
     emptyOnes(due);
     otherWay(due);
+    keptAnew(due);
     due.end();
   }
 
@@ -105,5 +106,20 @@ public final class KeepTest {
     changes(due, x, 0, 1, 2, 3);
     x.draw(0);
     changes(due, x);
+  }
+
+  // What was kept first had one stroke more: it is not to be found any more.
+  private static void keptAnew(Due due) {
+    PartDrawings x = new PartDrawings(10, 10);
+    x.box(0, 0, 0, 3, 3);
+    x.box(3, 0, 0, 3, 3);
+    x.draw(0);
+    due.is("keep two side by side", 5, () -> x.keep());
+    x.explode(1, -3, 0, 0);
+    x.draw(0);
+    due.is("keep two at one place", 4, () -> x.keep());
+    x.explode(1, 3, 0, 0);
+    x.draw(0);
+    changes(due, x, 0, 1, 4);
   }
 }
