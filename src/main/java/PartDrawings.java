@@ -13,8 +13,8 @@ public final class PartDrawings {
   private static final int GREATEST_PAGE = 65536;
   private static final int MOST_COUNTED = 2147483647;
 
-  // A stroke begins where one of the 4 * 24 sides begins, or where a side crosses another box's
-  // side; the outlines of two of 24 boxes cross at 4 places at most: 96 + 276 * 4.
+  // A stroke begins where one of the 4 * 24 sides begins, or on a side: where another box's side
+  // crosses it or one on the same line ends, at 4 places of two boxes at most: 96 + 276 * 4.
   private static final int MOST_STROKES = 1200;
 
   private static final int AXES = 3;

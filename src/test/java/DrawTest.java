@@ -20,17 +20,7 @@ public final class DrawTest {
   }
 
   private static void strokes(Due due, PartDrawings x, int view, String want) {
-    due.holds("strokes of view " + view, want, written(x, x.draw(view)));
-  }
-
-  private static String written(PartDrawings x, int count) {
-    StringBuilder text = new StringBuilder();
-    for (int k = 0; k < count; k++) {
-      text.append(x.command(k, 0) == 0 ? "-" : "|").append(x.command(k, 1)).append(':');
-      text.append(x.command(k, 2)).append("..").append(x.command(k, 3));
-      text.append(x.command(k, 4) == 1 ? "h " : " ");
-    }
-    return text.toString().trim();
+    due.holds("strokes of view " + view, want, Bounds.written(x, x.draw(view)));
   }
 
   private static void nothingDrawn(Due due) {
