@@ -84,12 +84,19 @@ public final class FaceTest {
       names.add(m.getName());
     }
     Set<String> twice = new TreeSet<>();
-    for (Method m : PartDrawings.class.getDeclaredMethods()) {
+    addPrivateNames(PartDrawings.class, names, twice);
+    for (Class<?> c : PartDrawings.class.getDeclaredClasses()) {
+      addPrivateNames(c, names, twice);
+    }
+    due.holds("private methods with a public one's name", "[]", twice.toString());
+  }
+
+  private static void addPrivateNames(Class<?> c, Set<String> names, Set<String> twice) {
+    for (Method m : c.getDeclaredMethods()) {
       if (Modifier.isPrivate(m.getModifiers()) && names.contains(m.getName())) {
         twice.add(m.getName());
       }
     }
-    due.holds("private methods with a public one's name", "[]", twice.toString());
   }
 
   private static void nestedClasses(Due due) {

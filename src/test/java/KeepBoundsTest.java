@@ -13,6 +13,7 @@ public final class KeepBoundsTest {
     beginAndEndByOne();
     hiddenOrNot();
     otherWay();
+    otherView();
     goneStrokesCountForNothing();
     keptForGood();
     keptAnew();
@@ -174,6 +175,29 @@ public final class KeepBoundsTest {
     x.keep();
     x.draw(2);
     changes(x, 0, 1, 2, 3);
+  }
+
+  // "that is not just so in what is KEPT": a stroke is its five numbers, whatever view it is of.
+  private static void otherView() {
+    PartDrawings x = Makers.empty();
+    x.box(4, 4, 4, 3, 3);
+    x.deep(0, 3);
+    x.draw(0);
+    x.keep();
+    for (int view = 0; view < 6; view++) {
+      x.draw(view);
+      changes(x);
+    }
+    // Of view 2 the lines across are longer by one, and one of those that go up is elsewhere.
+    PartDrawings y = Makers.empty();
+    y.box(0, 0, 0, 3, 4);
+    y.deep(0, 4);
+    y.draw(0);
+    y.keep();
+    BOUNDS.strokes(y, 2, "-0:0..4 -4:0..4 |0:0..4 |4:0..4");
+    changes(y, 0, 1, 3);
+    BOUNDS.strokes(y, 1, "-0:0..3 -4:0..3 |0:0..4 |3:0..4");
+    changes(y);
   }
 
   // Only strokes of what is DRAWN are told: those that are no more there have no number.

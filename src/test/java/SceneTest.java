@@ -6,6 +6,8 @@ import java.util.Random;
 /** Many small scenes, and the fullest ones, held against the document's terms place by place. */
 public final class SceneTest {
   private static final int SCENES = 250;
+  private static final int FAR_SCALE = 58000;
+  private static final int FARTHEST = 1000000;
 
   private final Due due;
   private final Random random = new Random(20261115);
@@ -20,6 +22,7 @@ public final class SceneTest {
     for (int i = 0; i < SCENES; i++) {
       int size = 5 + i % 3 * 6;
       test.randomScene(size, 1 + i % 24);
+      test.farScene(size, 24 - i % 24);
     }
     test.crossing(0);
     test.crossing(1);
@@ -41,6 +44,33 @@ public final class SceneTest {
     cutList(scene, x);
     changes(scene, x);
     measures(scene, x);
+  }
+
+  // The same scene, far off and many times as great: each number goes along with it.
+  private void farScene(int size, int boxCount) {
+    Scene scene = new Scene(size);
+    PartDrawings far = new PartDrawings(FAR_SCALE, FAR_SCALE);
+    int origin = random.nextBoolean() ? -FARTHEST : FARTHEST - size * FAR_SCALE;
+    for (int i = 0; i < boxCount; i++) {
+      int[] b = randomBox(size);
+      scene.boxes.add(b);
+      int box = far.box(origin + b[0] * FAR_SCALE, origin + b[1] * FAR_SCALE,
+          origin + b[2] * FAR_SCALE, b[3] * FAR_SCALE, b[4] * FAR_SCALE);
+      far.deep(box, b[5] * FAR_SCALE);
+    }
+    int view = random.nextInt(6);
+    List<int[]> want = scene.strokes(view);
+    for (int[] stroke : want) {
+      for (int i = 1; i < 4; i++) {
+        stroke[i] = origin + stroke[i] * FAR_SCALE;
+      }
+    }
+    int count = far.draw(view);
+    due.holds("far view " + view + " of " + told(scene), written(want), written(drawn(far, count)));
+    due.is("far ink", Scene.ink(want, 1), () -> far.ink(true));
+    int at = random.nextInt(size);
+    due.is("far area", scene.section(view, at, 1) * FAR_SCALE * FAR_SCALE,
+        () -> far.section(view, origin + (long) at * FAR_SCALE, 1));
   }
 
   private int[] randomBox(int size) {

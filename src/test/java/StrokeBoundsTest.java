@@ -10,6 +10,7 @@ public final class StrokeBoundsTest {
     endsOfStrokes();
     besideLines();
     seenFirst();
+    singlePlaceBetweenCovers();
     farOffPlaces();
     onNothing();
     sums();
@@ -121,14 +122,42 @@ public final class StrokeBoundsTest {
       BOUNDS.answers(y, a[1], Call.on(a[0], 0, false));
       BOUNDS.answers(y, a[1], Call.on(a[0], 1, false));
     }
-    // A place between two covers is within a hidden stroke, and at no end of one.
-    PartDrawings z = Makers.empty();
-    z.box(0, 0, 0, 5, 10);
-    z.box(5, 0, 0, 5, 10);
-    z.box(2, 4, 3, 6, 2);
-    z.draw(0);
-    BOUNDS.answers(z, 1, Call.on(5, 4, false));
-    BOUNDS.answers(z, 0, Call.on(5, 4, true));
+  }
+
+  // "(single places between them count for nothing)": one between two covers is within a hidden
+  // stroke, and at no end of one; if a place more is free, it is at the ends of a seen one.
+  private static void singlePlaceBetweenCovers() {
+    for (int view = 0; view < 6; view++) {
+      PartDrawings x = Makers.empty();
+      Makers.seenAs(x, view, new int[] {0, 0, 5, 10}, 0, 1);
+      Makers.seenAs(x, view, new int[] {5, 0, 5, 10}, 1, 1);
+      Makers.seenAs(x, view, new int[] {2, 4, 6, 2}, 3, 1);
+      x.draw(view);
+      placesAcross(x, new long[] {4, 1, 5, 1, 6, 1});
+      BOUNDS.answers(x, 0, Call.on(5, 4, true));
+      PartDrawings y = Makers.empty();
+      Makers.seenAs(y, view, new int[] {0, 0, 5, 10}, 0, 1);
+      Makers.seenAs(y, view, new int[] {6, 0, 4, 10}, 1, 1);
+      Makers.seenAs(y, view, new int[] {2, 4, 6, 2}, 3, 1);
+      y.draw(view);
+      placesAcross(y, new long[] {4, 1, 5, 0, 6, 0, 7, 1});
+      PartDrawings z = Makers.empty();
+      Makers.seenAs(z, view, new int[] {0, 0, 10, 5}, 0, 1);
+      Makers.seenAs(z, view, new int[] {0, 5, 10, 5}, 1, 1);
+      Makers.seenAs(z, view, new int[] {4, 2, 2, 6}, 3, 1);
+      z.draw(view);
+      BOUNDS.answers(z, 1, Call.on(4, 5, true));
+      BOUNDS.answers(z, 1, Call.on(6, 5, true));
+      BOUNDS.answers(z, 0, Call.on(4, 5, false));
+    }
+  }
+
+  /** On both lines of the box behind: places across, each with what is due there. */
+  private static void placesAcross(PartDrawings x, long[] places) {
+    for (int i = 0; i < places.length; i += 2) {
+      BOUNDS.answers(x, places[i + 1], Call.on(places[i], 4, false));
+      BOUNDS.answers(x, places[i + 1], Call.on(places[i], 6, false));
+    }
   }
 
   private static void farOffPlaces() {
